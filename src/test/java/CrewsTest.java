@@ -257,6 +257,13 @@ public final class CrewsTest {
         check.due("none such", x.unsound(Integer.MAX_VALUE), -1);
         check.due("undo", x.undo(), 7);
         check.due("sound again", x.unsound(-1), 0);
+        x = Check.of(GROUND + "one p 3 at a;game k l at a on 0 0 for 60 grade 3 by 2;game k l at a on 0 200 for 60 grade 3 by 2;");
+        check.due("puts", x.put(0, 0, 0) + x.put(1, 1, 0), 0);
+        check.due("days", x.day() + x.day(), 1);
+        check.due("marks", x.mark(0, 0, 0) + x.mark(1, 1, 0), 37 + 28);
+        check.due("review", x.review(1, 1), 1);
+        check.due("unsound", x.unsound(-1), 1);
+        check.due("the first of all", x.unsound(0), 0);
     }
 
     private static void exchange(WhistleRoster x, int... due) {
@@ -308,11 +315,18 @@ public final class CrewsTest {
             + "game k l at b on 0 0 for 60 grade 2;game k l at b on 0 200 for 60 grade 2;game k l at a on 1 0 for 60 grade 2;");
         check.due("puts", x.put(0, 0, 0) + x.put(1, 0, 0) + x.put(2, 0, 1), 0);
         exchange(x, 0, -1, -1, -1, -1);
+        // the last seat of a game and the first of the next one
+        x = Check.of(GROUND + "one p 3 at a;one q 3 at b;"
+            + "game k l at b on 0 0 for 60 grade 1 by 3;game k l at a on 1 0 for 60 grade 1 by 3;");
+        check.due("puts", x.put(0, 2, 0) + x.put(1, 0, 1), 0);
+        exchange(x, 120, 0, 2, 1, 0);
         // on one day: p at b between games at a, q at a between games at b
         x = Check.of(GROUND + "one p 3 at a;one q 3 at b;rest 0;"
             + "game k l at a on 0 0 for 60 grade 2;game k l at b on 0 0 for 60 grade 2;"
             + "game k l at b on 0 200 for 60 grade 2;game k l at a on 0 200 for 60 grade 2;");
         check.due("puts", x.put(0, 0, 0) + x.put(1, 0, 1) + x.put(2, 0, 0) + x.put(3, 0, 1), 0);
+        exchange(x, 120, 2, 0, 3, 0);
+        check.due("drops", x.drop(0, 0) * 10 + x.drop(1, 0), 1);
         exchange(x, 120, 2, 0, 3, 0);
         check.due("played", x.day() + x.day(), 1);
         exchange(x, 0, -1, -1, -1, -1);

@@ -271,6 +271,10 @@ public final class DaysTest {
         x.undo();
         check.due("review", x.review(0, 3), 3);
         grades(x, "2322");
+        // all of them are below 40
+        x = judged("33", "00", "00");
+        check.due("review", x.review(0, 9), 2);
+        grades(x, "22");
         // of grade 1 nobody goes down, of grade 5 nobody up, from 5 down and from 1 up
         x = judged("1515", "00", "xx", "xx", "00");
         check.due("review", x.review(9, 9), 2);

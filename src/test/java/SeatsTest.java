@@ -275,6 +275,16 @@ public final class SeatsTest {
         check.due("another day", x.extra(3, 0, 0), 60);
         check.due("beyond all ways", x.extra(4, 0, 0), 30 + 999 + 999 - 60);
         check.due("rounds stay", x.round(0, 0), 60);
+        // of games that begin at once the one with the lesser number is come to first
+        x = Check.of(GROUND + "one p 3 at a;rest 0;game k l at b on 0 300 for 60 grade 1;game k l at c on 0 100 for 60 grade 1;"
+            + "game k l at c on 0 300 for 60 grade 1;game k l at b on 0 100 for 60 grade 1;");
+        check.due("puts", x.put(1, 0, 0) + x.put(0, 0, 0), 0);
+        check.due("round", x.round(0, 0), 100);
+        check.due("c, b, c, a", x.extra(2, 0, 0), 50 + 20 + 20 + 50 - 100);
+        check.due("c, b, b, a", x.extra(3, 0, 0), 0);
+        check.due("drops and puts", x.drop(0, 0) + x.drop(1, 0) + x.put(2, 0, 0) + x.put(3, 0, 0), 0);
+        check.due("b, b, c, a", x.extra(0, 0, 0), 0);
+        check.due("c, b, c, a", x.extra(1, 0, 0), 40);
     }
 
     private static long fee(String law) {

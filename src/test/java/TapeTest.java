@@ -15,6 +15,7 @@ public final class TapeTest {
         faultsOfLaw();
         namesAndLetters();
         whatWasTold();
+        weekAfterWeek();
         check.close();
     }
 
@@ -326,5 +327,42 @@ public final class TapeTest {
         check.due("one(0, 4)", x.one(0, 4), 1);
         check.due("one(0, 5)", x.one(0, 5), 56);
         check.due("formBits", x.formBits(0), Float.floatToIntBits(56.75f));
+    }
+
+    /** Nothing of a week is left in those told after it, with a fault or without. */
+    private static void weekAfterWeek() {
+        WhistleRoster x = new WhistleRoster();
+        String full = GROUND + "off o 1;rest 0;most 1;fee 7;one p 1 at g no c;game c d at f on 0 0 for 60 grade 1 by 3;"
+            + "game c d at f on 0 30 for 60 grade 1 by 3;game c d at f on 0 95 for 60 grade 1 by 3;";
+        String plain = "field f;field g;club c;club d;one o 3 at f;one p 1 at g;game c d at f on 0 0 for 20 grade 1;"
+            + "game c d at f on 0 30 for 20 grade 1;game c d at f on 0 60 for 20 grade 1;game d c at f on 1 60 for 20 grade 1;";
+        for (int round = 0; round < 4; round++) {
+            Check.feed(x, full);
+            check.due("week()", x.week(), 3);
+            check.due("put", x.put(1, 2, 0), 0);
+            check.due("most is 1", x.why(0, 0, 0), 8);
+            if (round % 2 == 1) {
+                Check.feed(x, full + "most 2;field");
+                check.due("week()", x.week(), -1);
+            }
+            isPlain(x, plain);
+            if (round > 1) {
+                isPlain(x, plain);
+            }
+        }
+    }
+
+    private static void isPlain(WhistleRoster x, String plain) {
+        Check.feed(x, plain);
+        check.due("week()", x.week(), 4);
+        check.due("rest", x.has(4), 10);
+        check.due("most", x.has(5), 3);
+        check.due("taken", x.has(8), 0);
+        check.due("no road", x.way(0, 1), -1);
+        check.due("not off", x.one(0, 3), 0);
+        check.due("not barred", x.one(1, 2), 0);
+        check.due("seats", x.game(1, 7), 1);
+        check.due("fee", x.fee(0, 0, 0), 0);
+        check.due("puts", x.put(0, 0, 0) + x.put(1, 0, 0) + x.put(2, 0, 0) + x.put(3, 0, 0), 0);
     }
 }
