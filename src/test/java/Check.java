@@ -20,6 +20,24 @@ final class Check {
         due(what, got ? 1 : 0, want ? 1 : 0);
     }
 
+    /** The text has this fault at the place of the mark ^ in it (which is not of the text). */
+    void fault(int number, String marked) {
+        String text = marked.replace("^", "");
+        WhistleRoster x = new WhistleRoster();
+        feed(x, text);
+        due("week() of " + text, x.week(), -1);
+        due("fault(0) of " + text, x.fault(0), number);
+        due("fault(1) of " + text, x.fault(1), marked.indexOf('^'));
+    }
+
+    void fine(String text, int games) {
+        WhistleRoster x = new WhistleRoster();
+        feed(x, text);
+        due("week() of " + text, x.week(), games);
+        due("fault(0) of " + text, x.fault(0), 0);
+        due("fault(1) of " + text, x.fault(1), -1);
+    }
+
     interface Call {
         long ask();
     }

@@ -71,11 +71,16 @@ public final class FaceTest {
         check.due("of nothing", made[0].getParameterCount(), 0);
     }
 
-    private static void nothingElse() {
+    private static Set<String> faceNames() {
         Set<String> names = new TreeSet<>();
         for (String line : FACE) {
             names.add(line.substring(0, line.indexOf(' ')));
         }
+        return names;
+    }
+
+    private static void nothingElse() {
+        Set<String> names = faceNames();
         for (Method m : WhistleRoster.class.getDeclaredMethods()) {
             if (!Modifier.isPublic(m.getModifiers()) && !m.isSynthetic()) {
                 check.due("private: " + m, isHidden(m.getModifiers()), true);
@@ -103,6 +108,8 @@ public final class FaceTest {
             check.due("some twenty fields: " + c, fields <= 20, true);
             for (Method m : c.getDeclaredMethods()) {
                 check.due("seven parameters: " + m, m.getParameterCount() <= 7, true);
+                boolean clashes = isHidden(m.getModifiers()) && !m.isSynthetic() && faceNames().contains(m.getName());
+                check.due("a name of its own: " + m, clashes, false);
             }
         }
     }

@@ -19,22 +19,12 @@ public final class TapeTest {
         check.close();
     }
 
-    /** The text has this fault at the place of the mark ^ in it (which is not of the text). */
     private static void fault(int number, String marked) {
-        String text = marked.replace("^", "");
-        WhistleRoster x = new WhistleRoster();
-        Check.feed(x, text);
-        check.due("week() of " + text, x.week(), -1);
-        check.due("fault(0) of " + text, x.fault(0), number);
-        check.due("fault(1) of " + text, x.fault(1), marked.indexOf('^'));
+        check.fault(number, marked);
     }
 
     private static void fine(String text, int games) {
-        WhistleRoster x = new WhistleRoster();
-        Check.feed(x, text);
-        check.due("week() of " + text, x.week(), games);
-        check.due("fault(0) of " + text, x.fault(0), 0);
-        check.due("fault(1) of " + text, x.fault(1), -1);
+        check.fine(text, games);
     }
 
     private static void newObject() {
