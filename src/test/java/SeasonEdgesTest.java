@@ -186,7 +186,7 @@ public final class SeasonEdgesTest {
      * The first takes the first GAME, where the last one needs it: all ways of the GAMES between are gone through, then
      * the second official takes the first GAME and each of the others takes one put more.
      */
-    private static WhistleRoster longSearch(int... grades) {
+    private static WhistleRoster longSearch(String more, int... grades) {
         StringBuilder text = new StringBuilder(GROUND).append("one xa 5 at a;");
         for (char c = 'b'; c < 'k'; c++) {
             text.append("one x").append(c).append(' ').append(c < 'f' ? 3 : c < 'h' ? 2 : 1).append(" at a;");
@@ -195,19 +195,19 @@ public final class SeasonEdgesTest {
         for (int g = 0; g < grades.length; g++) {
             text.append("game k l at a on ").append(g + 1).append(" 0 for 10 grade ").append(grades[g]).append(';');
         }
-        return Check.of(text.append("game k l at a on 0 0 for 10 grade 5;").toString());
+        return Check.of(text.append("game k l at a on 0 0 for 10 grade 5;").append(more).toString());
     }
 
     // 26: "-2: it took more than 20,000 times that an OFFICIAL was put in (nothing happens then)"
     private static void fillTwentyThousandTimes() {
         // 10 are of GRADE 1, 7 of 2, 5 of 3, 1 of 5: 1 + 7 * (1 + 5 * (1 + 10 * (1 + 7 * (1 + 7)))) + 1 + 5 + 1 = 20000
-        WhistleRoster x = longSearch(2, 3, 1, 2, 2);
+        WhistleRoster x = longSearch("", 2, 3, 1, 2, 2);
         check.due("20,000 times", x.fill(), 7);
         check.due("the second", x.seat(0, 0, 0), 1);
         check.due("the first", x.seat(6, 0, 0), 0);
         check.due("one ACT", x.has(9), 1);
         // 1 + 7 * (1 + 5 * (1 + 10 * (1 + 1 * (1 + 5 * (1 + 10))))) + 1 + 6 + 1 = 20001
-        x = longSearch(2, 3, 1, 5, 3, 1);
+        x = longSearch("", 2, 3, 1, 5, 3, 1);
         puts(x, 4, 0, 0);
         check.due("drop", x.drop(4, 0), 0);
         check.due("20,001 times", x.fill(), -2);
@@ -223,6 +223,13 @@ public final class SeasonEdgesTest {
         puts(x, 0, 0, 1);
         check.due("less times", x.fill(), 7);
         check.due("all", x.has(8), 8);
+        // a SEAT that was free in an earlier fill and is taken now stays taken
+        x = longSearch("game k l at a on 6 500 for 10 grade 1;", 2, 3, 1, 5, 3, 1);
+        check.due("more than 20,000 times", x.fill(), -2);
+        puts(x, 8, 0, 9);
+        check.due("20,001 times", x.fill(), -2);
+        check.due("who had a SEAT has it", x.seat(8, 0, 0), 9);
+        check.due("nobody else", x.has(8), 1);
     }
 
     private static void steps(WhistleRoster x, int game, int seat, int... due) {
