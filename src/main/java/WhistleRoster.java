@@ -1645,21 +1645,23 @@ public final class WhistleRoster {
             return what == 0 ? crewSum : crew[what - 1];
         }
 
-        /** One level for each seat of the game. */
-        private void tryCrew(int game, int seat, int sum) {
+        /** One level for each free seat of the game; those that are taken stay as they are. */
+        private void tryCrew(int game, int from, int sum) {
             int seats = roster.week.games[game].seats;
-            if (seat >= seats) {
-                if (!crewFound || sum < crewSum) {
-                    crewFound = true;
-                    crewSum = sum;
-                    System.arraycopy(roster.holder, Week.placeOf(game, 0), crew, 0, seats);
-                }
-                return;
+            int seat = from;
+            while (seat < seats && roster.holder[Week.placeOf(game, seat)] != NONE) {
+                seat++;
             }
-            if (roster.holder[Week.placeOf(game, seat)] != NONE) {
-                tryCrew(game, seat + 1, sum);
-                return;
+            if (seat < seats) {
+                tryEachIn(game, seat, sum);
+            } else if (!crewFound || sum < crewSum) {
+                crewFound = true;
+                crewSum = sum;
+                System.arraycopy(roster.holder, Week.placeOf(game, 0), crew, 0, seats);
             }
+        }
+
+        private void tryEachIn(int game, int seat, int sum) {
             for (int o = 0; o < roster.officials(); o++) {
                 if (roster.reason(game, seat, o) == 0) {
                     int extra = roster.detour(game, seat, o);

@@ -35,6 +35,7 @@ public final class FaceTest {
         nothingElse();
         innerClasses();
         text();
+        shapesOfMethods();
         check.close();
     }
 
@@ -114,9 +115,12 @@ public final class FaceTest {
         }
     }
 
+    private static String source() throws IOException {
+        return Files.readString(Path.of("src/main/java/WhistleRoster.java"), StandardCharsets.UTF_8);
+    }
+
     private static void text() throws IOException {
-        Path file = Path.of("src/main/java/WhistleRoster.java");
-        String text = Files.readString(file, StandardCharsets.UTF_8);
+        String text = source();
         for (String what : FORBIDDEN) {
             Matcher found = Pattern.compile(what).matcher(text.replace("import java.util.NoSuchElementException;", ""));
             boolean is = found.find();
@@ -127,5 +131,24 @@ public final class FaceTest {
             plain &= c < 127;
         }
         check.due("plain signs", plain, true);
+    }
+
+    /**
+     * Rule 11: some sixty lines a method. Rule 8: what calls itself is static, or does so by way of another method. A call of
+     * another object's method of the same name has a dot ahead of it.
+     */
+    private static void shapesOfMethods() throws IOException {
+        Matcher method = Pattern.compile("\n( +)((?:private |public |static )*)[\\w\\[\\]]+ (\\w+)\\([^()]*\\)[^;{]*\\{\n(.*?)\n\\1\\}",
+            Pattern.DOTALL).matcher(source());
+        int methods = 0;
+        while (method.find()) {
+            String name = method.group(3);
+            String body = method.group(4);
+            boolean callsItself = Pattern.compile("(?<![.\\w])" + name + "\\(").matcher(body).find();
+            check.due("some sixty lines: " + name, body.split("\n").length <= 58, true);
+            check.due("calls itself, but is not static: " + name, callsItself && !method.group(2).contains("static"), false);
+            methods++;
+        }
+        check.due("methods that were found: " + methods, methods > 140, true);
     }
 }
